@@ -450,6 +450,11 @@ public final class PromiseTest {
         due("LATE, seen by one", x.told(0, 5), 3);
         x.came(3, 1);
         due("seen by two", x.told(0, 5), 1);
+        x.thing(14, 3, 0, 0, 1, 0, 60);
+        x.came(x.say(3, 2, 0), 1);
+        due("seen by the last PERSON alone", x.told(1, 5), 0);
+        x.came(x.say(1, 2, 0), 1);
+        due("and by another", x.told(1, 5), 1);
     }
 
     private static void value() {
@@ -645,6 +650,10 @@ public final class PromiseTest {
         faulty("  1234", 1, 2);
         faulty("nev", 1, 0);
         faulty("neverway 1;", 1, 0);
+        faulty("xever way 1;", 1, 0);
+        faulty("nevex way 1;", 1, 0);
+        faulty("never wayz 1;", 1, 6);
+        faulty("never wa{ 1;", 1, 6);
         faulty("Never way 1;", 1, 0);
         faulty("neveR way 1;", 1, 0);
         faulty("never", 1, 5);
@@ -723,7 +732,29 @@ public final class PromiseTest {
         due("always", x.barred(0, 1, 0), 0);
         x.dead(1);
         due("DEAD or not for it: it is LET", x.barred(2, 3, 0), 0);
+        closeOdds();
         most();
+    }
+
+    private static void closeOdds() {
+        WhenToSpeak x = fresh(23);
+        x.thing(1, 0, 0, 0, 1, 0, 60);
+        x.begins(0, 4);
+        x.begins(1, 2);
+        x.begins(2, 0);
+        x.begins(3, 0);
+        law(x, 0, "never way 0 state 0 67;never way 1 state 0 66;never way 2 state 1 34;never way 3 state 1 33;");
+        due("666666 are not 67 of a hundred", x.barred(0, 1, 0), 0);
+        due("666666 are 66 of a hundred", x.barred(0, 1, 1), 1);
+        due("333333 are not 34 of a hundred", x.barred(0, 1, 2), 0);
+        due("333333 are 33 of a hundred", x.barred(0, 1, 3), 1);
+        x.go(1);
+        law(x, 0, "never kind 0 after 0;");
+        due("KIND 0", x.barred(0, 1, 0), 2);
+        law(x, 0, "never kind 0 after 1;");
+        due("after TICK 1", x.barred(0, 1, 0), 0);
+        law(x, 0, "never kind 0 after 0;always from 0;");
+        due("always from 0", x.barred(0, 1, 0), 0);
     }
 
     private static void most() {
@@ -975,6 +1006,12 @@ public final class PromiseTest {
         due("saying(0, -1)", x.saying(0, -1), OUTSIDE);
         due("saying(1, 0)", x.saying(1, 0), UNKNOWN);
         due("saying(-1, 9)", x.saying(-1, 9), UNKNOWN);
+        WhenToSpeak y = fresh(27);
+        y.thing(1, 1, 0, 0, 1, 0, 60);
+        y.say(0, 1, 0);
+        due("nothing to be taken back", y.saying(0, 5), 0);
+        y.dead(0);
+        due("THING 0 is to be taken back", y.saying(0, 5), 1);
     }
 
     private static void tellOutcomes(WhenToSpeak x, int way, int lookedAt, int putBy) {
@@ -1064,6 +1101,9 @@ public final class PromiseTest {
         due("who(-1, 5)", x.who(-1, 5), UNKNOWN);
         x.dead(0);
         due("a DEAD one", x.who(0, 0), 1);
+        x.thing(9, 1, 0, 0, 1, 0, 60);
+        x.say(3, 2, 0);
+        due("NEXT may be PERSON 0", x.who(1, 1), 0);
     }
 
     private static void tried() {
@@ -1098,6 +1138,7 @@ public final class PromiseTest {
         due("by more than a quarter", x.tried(0, 250001, 1, 1), 12);
         due("another PERSON", x.tried(1, 250001, 1, 3), 0);
         due("another PERSON is LATE", x.tried(1, 250001, 1, 0), 1);
+        due("PERSON 0 by a SEAM at 4", x.tried(0, 900000, 1, 0), 1);
         due("no THINGS", x.tried(3, 0, 0, 3), 0);
         due("tried(4, 0, 0, 0)", x.tried(4, 0, 0, 0), UNKNOWN);
         due("tried(-1, -1, 9, 9)", x.tried(-1, -1, 9, 9), UNKNOWN);
@@ -1124,5 +1165,10 @@ public final class PromiseTest {
         due("a MUST one is said at its CLOCK", x.tried(0, 1, 0, 3), 1);
         due("the other is LATE, though it was said in truth", x.tried(0, 1, 0, 0), 1);
         due("what is said alone WAITED", x.tried(0, 1, 0, 1), 2);
+        WhenToSpeak y = fresh(30);
+        y.thing(1, 1, 0, 0, 1, 0, 2);
+        y.go(3);
+        due("THING 0 is LATE, never said", y.tried(0, 1, 0, 0), 1);
+        due("none is said", y.tried(0, 1, 0, 3), 0);
     }
 }
