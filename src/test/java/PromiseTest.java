@@ -40,6 +40,8 @@ public final class PromiseTest {
         learnt();
         who();
         tried();
+        allFull();
+        fullText();
         System.out.println(checks + " checks, " + wrong + " wrong");
         if (wrong != 0) {
             System.exit(1);
@@ -1170,5 +1172,48 @@ public final class PromiseTest {
         y.go(3);
         due("THING 0 is LATE, never said", y.tried(0, 1, 0, 0), 1);
         due("none is said", y.tried(0, 1, 0, 3), 0);
+    }
+
+    /** With ten THINGS and forty SAYINGS every call still answers. */
+    private static void allFull() {
+        WhenToSpeak x = fresh(1);
+        for (int t = 0; t < 10; t++) {
+            x.thing(15, t % 4, 0, t, 10, 1, 60);
+        }
+        due("all ten at once", x.say(3, 1023, 3), 0);
+        due("an eleventh bit", x.say(3, 1024, 3), UNKNOWN);
+        for (int s = 1; s < 40; s++) {
+            x.came(x.say(s % 4, 512, s % 4), 1);
+        }
+        due("the last THING is in all", x.told(9, 6), 40);
+        due("it is TOLD", x.told(9, 5), 1);
+        due("a TWO one seen by none", x.told(3, 5), 0);
+        due("TOLD: all but two TWO ones", x.count(3), 8);
+        due("all had it", x.who(9, 1), NONE);
+        due("looked at by way 3", x.learnt(3, 0, 0), 10);
+        due("of all told of, the first not with them", x.learnt(3, 0, 1), 10);
+        due("barred", x.barred(0, 1023, 0), 0);
+        due("dead", x.dead(9), 40);
+        due("taken back", x.saying(39, 5), 512);
+        due("a saying that is not", x.saying(40, 5), UNKNOWN);
+        due("both TWO ones at once: 4020 / 2 less 8", x.plan(0, 6, NONE, 0), 2002);
+        x.go(1);
+        due("all are said at once", x.tried(0, 0, 0, 3), 10);
+    }
+
+    private static void fullText() {
+        WhenToSpeak x = fresh(21);
+        String blanks = " ".repeat(160);
+        due("160 blanks", law(x, 0, blanks), 0);
+        due("a clause at the very end", law(x, 0, (blanks + "never way 1;").substring(12)), 1);
+        due("a word at the very end", law(x, 0, (blanks + "never").substring(5)), -11);
+        due("the end is 160", x.fault(), 160);
+        due("a NUMBER at the very end", law(x, 0, (blanks + "never way 1").substring(11)), -11);
+        due("the end is 160", x.fault(), 160);
+        due("figures alone", law(x, 0, "most" + "1".repeat(156)), -12);
+        due("at the first", x.fault(), 4);
+        x.thing(1, 0, 0, 0, 0, 0, 60);
+        due("eight clauses without most", law(x, 0, "never way 0;".repeat(8)), 8);
+        due("a plan under them", x.plan(0, 6, 5, 1), 1);
     }
 }
