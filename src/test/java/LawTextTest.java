@@ -11,6 +11,7 @@ public final class LawTextTest {
     public static void main(String[] args) throws IOException {
         sheet = new Sheet();
         feeding();
+        clauses();
         reading();
         numbers();
         bounds();
@@ -69,6 +70,37 @@ public final class LawTextTest {
             sheet.due("one by one", z.feed(1, 0x20), i);
         }
         sheet.due("one more", z.feed(1, 0x20), FULL);
+    }
+
+    private static void clauses() {
+        sheet.says("clause = 'never' 'way' W ['state' S N] ';' 'never' 'kind' K 'after' N ';' 'most' N 'in' N ';' 'always' 'from' N ';'.");
+        good("never way 1;", 1);
+        good("never way 1 state 2 3;", 1);
+        good("never kind 1 after 2;", 1);
+        good("most 1 in 2;", 1);
+        good("always from 1;", 1);
+        good(GOOD, 4);
+        // Each part left out, in turn.
+        faulty("way 1 state 2 3;", 1, 0);
+        faulty("never 1 state 2 3;", 1, 6);
+        faulty("never way state 2 3;", 1, 10);
+        faulty("never way 1 2 3;", 1, 12);
+        faulty("never way 1 state 2;", 1, 19);
+        faulty("never way 1 state 2 3", 1, 21);
+        faulty("kind 1 after 2;", 1, 0);
+        faulty("never kind after 2;", 1, 11);
+        faulty("never kind 1 2;", 1, 13);
+        faulty("never kind 1 after;", 1, 18);
+        faulty("never kind 1 after 2", 1, 20);
+        faulty("1 in 2;", 1, 0);
+        faulty("most in 2;", 1, 5);
+        faulty("most 1 2;", 1, 7);
+        faulty("most 1 in;", 1, 9);
+        faulty("most 1 in 2", 1, 11);
+        faulty("from 1;", 1, 0);
+        faulty("always 1;", 1, 7);
+        faulty("always from;", 1, 11);
+        faulty("always from 1", 1, 13);
     }
 
     private static void reading() {
@@ -334,6 +366,10 @@ public final class LawTextTest {
         faulty("never way 1 1234;", 1, 12);
         faulty("most 1 1234 5;", 1, 7);
         faulty(EIGHT + "foo way 1;", 1, 96);
+        faulty(EIGHT + "nevet way 1;", 1, 96);
+        faulty(EIGHT + "host 1 in 1;", 1, 96);
+        faulty(EIGHT + "alwayz from 1;", 1, 96);
+        faulty(EIGHT + "mostly 1 in 1;", 1, 96);
         faulty(EIGHT + "1234;", 1, 96);
         faulty(EIGHT + ";", 1, 96);
     }

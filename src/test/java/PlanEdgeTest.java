@@ -20,6 +20,7 @@ public final class PlanEdgeTest {
         gains();
         losses();
         mustOnes();
+        theMost();
         nothingFirst();
         setsNext();
         waysLast();
@@ -308,6 +309,30 @@ public final class PlanEdgeTest {
         planned(y, "9 in NOW", 2009, 1, 0, 0);
         y.go(5);
         planned(y, "worn out, but 2000", 2000, 0, 0, 1);
+    }
+
+    private static void theMost() {
+        sheet.says("THE BEST PLAN: the most GAIN less LOSS;");
+        WhenToSpeak x = free();
+        x.thing(1, 1, 0, 0, 10, 0, 1);
+        x.thing(1, 1, 1, 0, 90, 45, 60);
+        x.thing(1, 1, 0, 0, 60, 30, 60);
+        // 90 now and 10 + 30 next; 70 now and 45 next are less.
+        planned(x, "one MATTER now, the other next", 130, 2, 5);
+        planned(x, "one step", 90, 2);
+        Scene.allWays(x, 100, 999);
+        planned(x, "all cost too much", 0, 0, 0);
+        x.cost(3, 0, 0);
+        x.cost(3, 1, 0);
+        x.cost(3, 2, 0);
+        x.cost(3, 3, 140);
+        planned(x, "35 off each: 90 and 40", 60, 2, 5);
+        x.cost(3, 3, 160);
+        planned(x, "40 off each: one pays no more", 50, 2, 0);
+        x.cost(3, 3, 359);
+        planned(x, "89 off", 1, 2, 0);
+        x.cost(3, 3, 360);
+        planned(x, "90 off", 0, 0, 0);
     }
 
     private static void nothingFirst() {

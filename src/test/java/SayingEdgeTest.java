@@ -10,6 +10,7 @@ public final class SayingEdgeTest {
     public static void main(String[] args) throws IOException {
         sheet = new Sheet();
         forty();
+        whats();
         refusedSayings();
         outcomes();
         takenBack();
@@ -58,6 +59,43 @@ public final class SayingEdgeTest {
         due("the first is as it was", x.saying(0, 3), 0);
         due("the last can be told of", x.came(39, 1), 0);
         due("there is no SAYING 40 to tell of", x.came(40, 1), UNKNOWN);
+    }
+
+    private static void whats() {
+        sheet.says("Of a SAYING: what = 0 PERSON, 1 SET, 2 WAY, 3 TICK, 4 what came of it, 5 the SET of THINGS to be taken back.");
+        WhenToSpeak x = withThing(1, 60);
+        x.thing(15, 1, 0, 0, 1, 0, 60);
+        x.say(0, 1, 3);
+        Scene.goTo(x, 60);
+        x.say(3, 3, 0);
+        x.came(1, 2);
+        x.dead(1);
+        int[][] want = {{0, 1, 3, 0, 0, 0}, {3, 3, 0, 60, 2, 2}};
+        for (int s = 0; s < 2; s++) {
+            for (int what = 0; what < 6; what++) {
+                due("saying(" + s + ", " + what + ")", x.saying(s, what), want[s][what]);
+            }
+            due("saying(" + s + ", 6)", x.saying(s, 6), OUTSIDE);
+            due("saying(" + s + ", -1)", x.saying(s, -1), OUTSIDE);
+        }
+        sheet.says("what came of one is told later:");
+        x.came(0, 1);
+        due("told in another TICK", x.saying(0, 4), 1);
+        due("its TICK stays", x.saying(0, 3), 0);
+        sheet.says("LEARNT: what = 0 x, 1 m, 2 y, 3 n, 4 the upper, 5 the lower number of CHANCE.");
+        int[] learnt = {1, 1, 0, 1, 1, 2};
+        for (int what = 0; what < 6; what++) {
+            due("learnt(3, 0, " + what + ")", x.learnt(3, 0, what), learnt[what]);
+        }
+        sheet.says("TRIED: what = 0 LATE ones, 1 WAITED, 2 PAID, 3 how many are said.");
+        WhenToSpeak y = withThing(0, 5);
+        y.thing(15, 1, 0, 0, 1, 0, 2);
+        y.thing(15, 3, 0, 0, 1, 0, 7);
+        y.go(9);
+        int[] tried = {1, 12, 16, 2};
+        for (int what = 0; what < 4; what++) {
+            due("tried(2, 1, 0, " + what + ")", y.tried(2, 1, 0, what), tried[what]);
+        }
     }
 
     private static void refusedSayings() {

@@ -10,6 +10,8 @@ public final class ThingEdgeTest {
     public static void main(String[] args) throws IOException {
         sheet = new Sheet();
         ten();
+        sets();
+        whats();
         persons();
         kinds();
         worths();
@@ -27,6 +29,8 @@ public final class ThingEdgeTest {
         most();
         mostInAll();
         always();
+        eightClauses();
+        newLaws();
         firstBar();
         sheet.end();
     }
@@ -48,7 +52,8 @@ public final class ThingEdgeTest {
         for (int t = 0; t < 10; t++) {
             due("not yet there", x.told(t, 0), UNKNOWN);
             due("THING " + t, x.thing(1 + t, 1, 2, t, 3, 4, 50 + t), t);
-            due("there", x.told(t, 4), 50 + t);
+            due("PERSONS", x.told(t, 0), 1 + t);
+            due("CLOCK", x.told(t, 4), 50 + t);
         }
         due("an eleventh", x.thing(1, 1, 2, 3, 3, 4, 60), FULL);
         due("ten", x.count(1), 10);
@@ -65,6 +70,53 @@ public final class ThingEdgeTest {
         due("refused", y.say(1, 1, 0), NOT);
         due("the first that is not", y.say(0, 1, 0), 0);
         due("the next", y.say(0, 1, 0), 1);
+    }
+
+    private static void sets() {
+        sheet.says("A SET is a whole number, bit k for k.");
+        WhenToSpeak x = new WhenToSpeak();
+        for (int t = 0; t < 10; t++) {
+            x.thing(1 << t % 4, 1, t / 4, 0, 100, 0, 60);
+        }
+        for (int t = 0; t < 10; t++) {
+            for (int p = 0; p < 4; p++) {
+                due("THING " + t + " to PERSON " + p, x.say(p, 1 << t, 0) >= 0 ? 1 : 0, p == t % 4 ? 1 : 0);
+            }
+            due("in its own SAYING", x.saying(t, 1), 1 << t);
+            due("in one", x.told(t, 6), 1);
+        }
+        x.dead(9);
+        due("taken back", x.saying(9, 5), 512);
+        for (int i = 0; i < 4; i++) {
+            Scene.onlyState(x, i);
+            for (int set = 0; set < 16; set++) {
+                x.seams(set);
+                due("STATE " + i + " in SEAMS " + set, x.seam(0, 0), (set >> i & 1) * 1000000);
+            }
+        }
+    }
+
+    private static void whats() {
+        sheet.says("Of a THING: what = 0 PERSONS, 1 KIND, 2 MATTER, 3 from, 4 CLOCK, 5 0 WAITING, 1 TOLD, 2 DEAD, 3 LATE,");
+        WhenToSpeak x = new WhenToSpeak();
+        x.thing(15, 0, 5, 9, 999, 99, 60);
+        x.thing(1, 3, 0, 0, 0, 0, 0);
+        x.thing(8, 1, 2, 3, 4, 5, 6);
+        x.thing(6, 2, 1, 4, 4, 5, 6);
+        x.go(1);
+        x.dead(2);
+        x.say(1, 8, 0);
+        int[][] want = {{15, 0, 5, 9, 60, WAITING}, {1, 3, 0, 0, 0, LATE}, {8, 1, 2, 3, 6, DEAD}, {6, 2, 1, 4, 6, TOLD}};
+        for (int t = 0; t < 4; t++) {
+            for (int what = 0; what < 6; what++) {
+                due("told(" + t + ", " + what + ")", x.told(t, what), want[t][what]);
+            }
+        }
+        sheet.says("A THING is WAITING,");
+        due("one of four", x.count(2), 1);
+        due("one that is LATE", x.count(5), 1);
+        x.came(0, 3);
+        due("a wiped one waits again", x.count(2), 2);
     }
 
     private static void persons() {
@@ -548,6 +600,58 @@ public final class ThingEdgeTest {
         due("not for one of always", x.barred(0, 1, 0), 0);
         due("always of another PERSON", Scene.law(x, 1, "always from 4;"), 1);
         due("is not this one's", x.barred(0, 4, 0), 3);
+    }
+
+    /** The last of eight clauses holds like the first. */
+    private static void eightClauses() {
+        sheet.says("3 a ninth clause (at its first letter).");
+        String[] clauses = {"never way 2;", "never way 2 state 1 25;", "never kind 1 after 0;", "most 1 in 9;"};
+        int[] bars = {1, 1, 2, 3};
+        for (int c = 0; c < 4; c++) {
+            for (int at = 0; at < 8; at++) {
+                WhenToSpeak x = withThing(1);
+                x.say(0, 1, 0);
+                x.go(1);
+                String other = "most 9 in 1;";
+                due("eight", Scene.law(x, 0, other.repeat(at) + clauses[c] + other.repeat(7 - at)), 8);
+                due("clause " + at, x.barred(0, 1, 2), bars[c]);
+            }
+        }
+        WhenToSpeak x = withThing(1);
+        due("eight", Scene.law(x, 0, "never way 2;".repeat(7) + "always from 5;"), 8);
+        due("always as the eighth", x.barred(0, 1, 2), 0);
+        due("a PLAN under eight", x.plan(0, 6, 5, 1), 0);
+        due("eight of never", Scene.law(x, 0, "never way 2;never way 0;".repeat(4)), 8);
+        due("WAY 1", x.barred(0, 1, 1), 0);
+        due("a PLAN under eight", x.plan(0, 6, 5, 1), 1);
+    }
+
+    /** LAWS that are read take the place of all that were there. */
+    private static void newLaws() {
+        sheet.says("THE TEXT (it is empty then) becomes LAWS of a PERSON:");
+        String[] old = {"never way 2;", "never way 2 state 1 0;", "never kind 1 after 0;", "most 0 in 9;"};
+        String[] shorter = {"", "never way 3;", "never way 3;never way 1;"};
+        for (String clause : old) {
+            for (String text : shorter) {
+                WhenToSpeak x = withThing(1);
+                x.go(1);
+                Scene.law(x, 0, clause.repeat(4));
+                due("barred", x.barred(0, 1, 2) > 0 ? 1 : 0, 1);
+                Scene.law(x, 0, clause.repeat(4));
+                Scene.law(x, 1, clause.repeat(4));
+                due("shorter LAWS", Scene.law(x, 0, text), text.length() / 12);
+                due("the old are gone", x.barred(0, 1, 2), 0);
+                due("but for PERSON 1", x.barred(1, 1, 2) > 0 ? 1 : 0, 1);
+            }
+        }
+        WhenToSpeak x = withThing(1);
+        Scene.law(x, 0, "never way 2;always from 5;always from 5;");
+        due("always", x.barred(0, 1, 2), 0);
+        Scene.law(x, 0, "never way 2;always from 4;");
+        due("no more", x.barred(0, 1, 2), 1);
+        Scene.law(x, 0, "always from 5;always from 5;");
+        Scene.law(x, 0, "never way 2;");
+        due("nor from others", x.barred(0, 1, 2), 1);
     }
 
     private static void firstBar() {

@@ -13,6 +13,7 @@ public final class WorkEdgeTest {
         fiveHundredAndTwelve();
         persons();
         ticks();
+        statesAndSigns();
         settings();
         signs();
         sevenTicks();
@@ -112,6 +113,28 @@ public final class WorkEdgeTest {
         due("at 0", y.fits(0, 0), 4);
         due("at NOW", y.fits(0, 60), 16384);
         due("behind it", y.fits(0, 61), OUTSIDE);
+    }
+
+    private static void statesAndSigns() {
+        sheet.says("WORK has STATES 0 to 3, SIGNS 0 to 3:");
+        for (int i = 0; i < 4; i++) {
+            for (int s = 0; s < 4; s++) {
+                WhenToSpeak x = new WhenToSpeak();
+                x.shows(i, s, 0);
+                for (int told = 0; told < 4; told++) {
+                    x.sign(0, told);
+                    due("STATE " + i + " does not show " + s, x.odds(0, i, 0), told == s ? 0 : 250000);
+                    due("all others do", x.fits(0, 0), told == s ? 3 : 4);
+                }
+            }
+        }
+        sheet.says("All numbers are whole; / cuts towards 0;");
+        WhenToSpeak y = new WhenToSpeak();
+        Scene.begin(y, 1, 1, 1, 4);
+        due("1 of 7 is 142857 and a bit", y.odds(0, 0, 0), 142857);
+        due("4 of 7 is 571428 and more than a half", y.odds(0, 3, 0), 571428);
+        y.cost(0, 3, 1);
+        due("more than a half of 1, and 1 and a bit three times", y.loss(0, 0, 0), 3);
     }
 
     private static void settings() {
